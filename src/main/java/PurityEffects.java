@@ -12,17 +12,43 @@ public final class PurityEffects {
     private static final int NO_RESULT = 0, NUMBER_RESULT = 1, REFERENCE_RESULT = 2;
     private static final int ARRAY_KIND = -10, DEEDS = 6, EFFECTS = 8;
 
-    /** What a, b and c of each OP have to be: '-' anything, L a local, C a class, f F a field and
-     *  s S a static of numbers, of references, M a method, J a line, T what is thrown, R the result's local. */
-    private static final char[] WANTED = {
-        'L', '-', '-',  'L', 'L', 'L',  'L', 'L', 'L',  'L', 'L', 'L',
-        'L', 'L', 'L',  'L', 'L', 'L',  'L', '-', '-',  'L', 'L', '-',
-        'L', 'C', '-',  'L', 'L', '-',  'L', 'L', 'f',  'L', 'L', 'f',
-        'L', 'L', 'F',  'L', 'L', 'F',  'L', 'L', 'L',  'L', 'L', 'L',
-        'L', 's', '-',  's', 'L', '-',  'L', 'S', '-',  'S', 'L', '-',
-        'L', 'L', '-',  'L', 'M', 'L',  'L', '-', '-',  'L', 'L', 'J',
-        'L', 'L', 'J',  'L', '-', 'J',  'L', 'L', 'J',  'L', 'C', 'J',
-        '-', '-', 'J',  'L', 'C', '-',  'T', '-', '-',  'R', '-', '-'
+    private static final int ANY = 0, LOCAL = 1, CLASS = 2, N_FIELD = 3, R_FIELD = 4, N_STATIC = 5, R_STATIC = 6;
+    private static final int METHOD = 7, LINE = 8, THROW = 9, RESULT = 10;
+
+    /** What a, b and c of each OP have to be; N_ of numbers, R_ of references, RESULT a local if there is a result. */
+    private static final int[] WANTED = {
+        LOCAL, ANY, ANY,
+        LOCAL, LOCAL, LOCAL,
+        LOCAL, LOCAL, LOCAL,
+        LOCAL, LOCAL, LOCAL,
+        LOCAL, LOCAL, LOCAL,
+        LOCAL, LOCAL, LOCAL,
+        LOCAL, ANY, ANY,
+        LOCAL, LOCAL, ANY,
+        LOCAL, CLASS, ANY,
+        LOCAL, LOCAL, ANY,
+        LOCAL, LOCAL, N_FIELD,
+        LOCAL, LOCAL, N_FIELD,
+        LOCAL, LOCAL, R_FIELD,
+        LOCAL, LOCAL, R_FIELD,
+        LOCAL, LOCAL, LOCAL,
+        LOCAL, LOCAL, LOCAL,
+        LOCAL, N_STATIC, ANY,
+        N_STATIC, LOCAL, ANY,
+        LOCAL, R_STATIC, ANY,
+        R_STATIC, LOCAL, ANY,
+        LOCAL, LOCAL, ANY,
+        LOCAL, METHOD, LOCAL,
+        LOCAL, ANY, ANY,
+        LOCAL, LOCAL, LINE,
+        LOCAL, LOCAL, LINE,
+        LOCAL, ANY, LINE,
+        LOCAL, LOCAL, LINE,
+        LOCAL, CLASS, LINE,
+        ANY, ANY, LINE,
+        LOCAL, CLASS, ANY,
+        THROW, ANY, ANY,
+        RESULT, ANY, ANY
     };
 
     private final Program program;
@@ -417,21 +443,21 @@ public final class PurityEffects {
             if (!suits(WANTED[row], method, a) || !suits(WANTED[row + 1], method, b) || !suits(WANTED[row + 2], method, c)) {
                 return false;
             }
-            return WANTED[row + 1] != 'M' || a + numberParams[b] <= LOCALS && c + thingParams[b] <= LOCALS;
+            return WANTED[row + 1] != METHOD || a + numberParams[b] <= LOCALS && c + thingParams[b] <= LOCALS;
         }
 
-        private boolean suits(char wanted, int method, int x) {
+        private boolean suits(int wanted, int method, int x) {
             switch (wanted) {
-                case 'L': return isLocal(x);
-                case 'C': return isClass(x);
-                case 'f': return isFieldOf(x, false);
-                case 'F': return isFieldOf(x, true);
-                case 's': return isStatic(x) && !staticRefers[x];
-                case 'S': return isStatic(x) && staticRefers[x];
-                case 'M': return isMethod(x);
-                case 'J': return x >= 0 && x <= LINES;
-                case 'T': return x >= 0 && x < THROWN;
-                case 'R': return results[method] == NO_RESULT || isLocal(x);
+                case LOCAL: return isLocal(x);
+                case CLASS: return isClass(x);
+                case N_FIELD: return isFieldOf(x, false);
+                case R_FIELD: return isFieldOf(x, true);
+                case N_STATIC: return isStatic(x) && !staticRefers[x];
+                case R_STATIC: return isStatic(x) && staticRefers[x];
+                case METHOD: return isMethod(x);
+                case LINE: return x >= 0 && x <= LINES;
+                case THROW: return x >= 0 && x < THROWN;
+                case RESULT: return results[method] == NO_RESULT || isLocal(x);
                 default: return true;
             }
         }
@@ -512,9 +538,10 @@ public final class PurityEffects {
 
         /** The caller has looked whether there is room. */
         int make(Program program, int kind) {
+            boolean isObject = kind > ARRAY_KIND;
             kinds[things] = kind;
             for (int k = 0; k < ROW; k++) {
-                slots[things * ROW + k] = refersAt(program, things, k) ? NULL : 0;
+                slots[things * ROW + k] = isObject && program.fieldRefers[k] ? NULL : 0;
             }
             return things++;
         }
