@@ -15,7 +15,8 @@ public final class PurityEffects {
     private static final int ANY = 0, LOCAL = 1, CLASS = 2, N_FIELD = 3, R_FIELD = 4, N_STATIC = 5, R_STATIC = 6;
     private static final int METHOD = 7, LINE = 8, THROW = 9, RESULT = 10;
 
-    /** What a, b and c of each OP have to be; N_ of numbers, R_ of references, RESULT a local if there is a result. */
+    /** What a, b and c of each OP, a row each, have to be; N_ of numbers, R_ of references, RESULT a local if there
+     *  is a result. OPs go by the document's numbers everywhere, so that both can be read side by side. */
     private static final int[] WANTED = {
         LOCAL, ANY, ANY,
         LOCAL, LOCAL, LOCAL,

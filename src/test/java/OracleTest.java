@@ -95,7 +95,6 @@ public final class OracleTest {
                 int r = pick(chance(5) ? 5 : 3);
                 due("method(" + p + ", " + q + ", " + r + ")", x.method(p, q, r), o.method(p, q, r));
             }
-            int[] styles = new int[methods];
             for (int m = 0; m < o.methods.size(); m++) {
                 int lines = 1 + pick(chance(15) ? 24 : 9);
                 for (int l = 0; l < lines && calls < 300; l++) {
@@ -106,7 +105,7 @@ public final class OracleTest {
                     tellCatch(m, lines);
                 }
             }
-            if (styles.length > 0 && chance(25)) {
+            if (chance(25)) {
                 tellPrinter();
             }
             int things = pick(8);

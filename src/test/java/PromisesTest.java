@@ -32,8 +32,10 @@ public final class PromisesTest {
         analysisOfCalls();
         analysisOfCatches();
         analysisOfRecursion();
+        analysisAnew();
         orderFree();
         runsOfNumbers();
+        runsOfReferences();
         runsOfFaults();
         runsOfCatches();
         runsOfCalls();
@@ -45,6 +47,7 @@ public final class PromisesTest {
         deeds();
         foreseen();
         bothOfNumbers();
+        bothOfOldThings();
         bothOfMadeThings();
         bothChangesNothing();
         printedAndCounted();
@@ -489,7 +492,12 @@ public final class PromisesTest {
         x.analyse();
         due("19 24 goes both ways", x.may(both, 2, 0), 5);
         due("19 29 as it is", x.may(both, 4, 0), 5);
-        due("17 29 of null alone throws nothing", x.effects(both, 3), 1 << 5 | 1 << 6);
+        due("17 faults", x.effects(both, 3), 1 << 5 | 1 << 6);
+        int ofNull = method(x, 0, 0, 0, l(29, 0, 0, 0));
+        int ofSome = method(x, 0, 1, 0, l(29, 0, 0, 0));
+        x.analyse();
+        due("17 29 of null alone throws nothing", x.effects(ofNull, 3), 0);
+        due("17 29 of a param", x.effects(ofSome, 3), 1 << 5);
     }
 
     private static void analysisOfParts() {
@@ -542,6 +550,12 @@ public final class PromisesTest {
         due("17 null alone", x.effects(nobody, 3), 8);
         due("17 null alone", x.effects(nobody, 7), 0);
         due("17 repeatable on new things", x.effects(fresh, 6), 1);
+        int size = method(x, 0, 1, 1, l(20, 0, 0, 0), l(31, 0, 0, 0));
+        int one = method(x, 0, 1, 1, l(10, 0, 0, 0), l(31, 0, 0, 0));
+        x.analyse();
+        due("17 a size is not read", x.effects(size, 6), 1);
+        due("17 what reads is not repeatable", x.effects(one, 6), 0);
+        due("17 but pure", x.effects(one, 5), 1);
         due("17 its faults", x.effects(fresh, 3), 1 << 2 | 1 << 4 | 1 << 5);
     }
 
@@ -632,6 +646,36 @@ public final class PromisesTest {
         due("17 pong does not print", x.effects(pong, 2), 0);
     }
 
+    private static void analysisAnew() {
+        PurityEffects x = fresh();
+        x.type(-1);
+        x.field(0, false);
+        x.shared(false);
+        int first = method(x, 1, 2, 2, l(23, 0, 1, 3), l(10, 0, 0, 0), l(31, 1, 0, 0), l(31, 0, 0, 0));
+        int caller = method(x, 0, 2, 2, l(7, 4, 0, 0), l(8, 5, 0, 0), l(21, 0, first, 4), l(31, 4, 0, 0), l(16, 0, 0, 0), l(17, 0, 0, 0), l(22, 0, 0, 0), l(31, 1, 0, 0));
+        x.caught(caller, 2, 3, 5, 4);
+        x.caught(caller, 2, 3, 3, 24);
+        due("16 one is pure", x.analyse(), 1);
+        due("17 of both params", x.effects(first, 4), 1 | 4 | 8);
+        due("17 null, param 0, new, param 1 of the catch", x.effects(caller, 4), 1 | 2 | 4 | 8);
+        due("18 read by a call", x.by(caller, 0, false), 1);
+        due("18 read in the catch", x.by(caller, 3, false), 1 << 16);
+        due("18 written in the catch", x.by(caller, 3, true), 1 << 16);
+        due("17 faults are caught", x.effects(caller, 3), 0);
+        x.caught(first, 1, 2, 0, 24);
+        due("16 both are pure now", x.analyse(), 2);
+        due("18 no catch any more", x.by(caller, 3, false), 0);
+        due("18 no catch any more", x.by(caller, 3, true), 0);
+        due("17 no print any more", x.effects(caller, 2), 0);
+        due("19 not reached any more", x.may(caller, 4, 0), 0);
+        due("17 null, param 0, new", x.effects(caller, 4), 1 | 2 | 4);
+        due("17 no faults any more", x.effects(first, 3), 0);
+        x.caught(first, 2, 3, 0, 3);
+        x.line(first, 28, 0, 0, 4);
+        x.analyse();
+        due("17 behind the last is not the end any more", x.effects(first, 4), 4 | 8 | 1);
+    }
+
     private static void orderFree() {
         PurityEffects x = fresh();
         x.shared(false);
@@ -690,6 +734,48 @@ public final class PromisesTest {
         due("21 -1", x.run(-1), UNKNOWN);
         due("21 no lines", x.run(m), 0);
         due("22 no lines", x.did(3), 0);
+    }
+
+    private static void runsOfReferences() {
+        PurityEffects x = fresh();
+        x.type(-1);
+        x.type(0);
+        x.type(-1);
+        x.thing(0);
+        x.thing(1);
+        x.thing(2);
+        x.array(0);
+        int[][] lines = {l(25, 0, 0, 3), l(26, 0, 1, 3), l(27, 0, 0, 3), l(27, 0, 1, 3), l(28, 0, 0, 3)};
+        int[][] there = {
+            {1, 1, 0, 0, 1},   // null
+            {0, 0, 1, 0, 1},   // 0
+            {0, 0, 1, 1, 1},   // below 0
+            {0, 0, 0, 0, 1},   // another class
+            {0, 0, 0, 0, 1}};  // an array
+        int[] m = new int[5];
+        for (int i = 0; i < 5; i++) {
+            m[i] = method(x, 0, 2, 1, lines[i], l(0, 2, 0, 5), l(31, 2, 0, 0), l(0, 2, 0, 6), l(31, 2, 0, 0));
+        }
+        for (int t = -1; t < 4; t++) {
+            x.arg(0, true, 0, t);
+            for (int i = 0; i < 5; i++) {
+                due("21 branch", x.run(m[i]), 0);
+                due("21 branch of " + lines[i][0] + " on " + t, x.did(5), there[t + 1][i] == 1 ? 6 : 5);
+            }
+        }
+        x.arg(0, true, 1, 3);
+        due("21 the same", x.run(m[1]), 0);
+        due("22 the same", x.did(5), 6);
+        int size = method(x, 0, 1, 1, l(20, 0, 0, 0), l(22, 0, 0, 0), l(14, 0, 0, 0));
+        due("21 no items", x.run(size), 4);
+        due("25 no items", x.printed(0), 0);
+        due("26 printed", x.count(5), 1);
+        due("10 no items", x.put(3, 0, 0), UNKNOWN);
+        due("12 no items", x.get(3, 0), 0);
+        int copy = method(x, 0, 2, 2, l(7, 3, 0, 0), l(6, 0, 0, 0), l(31, 3, 0, 0));
+        x.arg(0, true, 0, 1);
+        due("21 copied", x.run(copy), 0);
+        due("22 copied", x.did(5), 1);
     }
 
     private static void runsOfFaults() {
@@ -901,6 +987,7 @@ public final class PromisesTest {
         due("21 static as it was", x.stat(0), -1);
         due("21 things as they were", x.count(4), 2);
         due("21 printed as it was", x.count(5), 0);
+        due("25 nothing of a full run", x.printed(0), 0);
         due("22 none", x.did(3), 0);
         x.arg(0, false, 0, 3);
         due("21 ends", x.run(m), 0);
@@ -965,6 +1052,30 @@ public final class PromisesTest {
         due("23 fault foreseen", x.foreseen(), 1);
         x.line(m, 30, 0, 0, 0);
         due("23 of the run", x.foreseen(), 1);
+        PurityEffects y = fresh();
+        y.type(-1);
+        y.field(0, false);
+        y.thing(0);
+        y.thing(0);
+        int writer = method(y, 1, 1, 0, l(11, 0, 0, 0));
+        int second = method(y, 1, 3, 0, l(21, 0, writer, 1));
+        int printer = method(y, 1, 0, 0, l(22, 0, 0, 0), l(4, 0, 0, 1));
+        int quiet = method(y, 0, 0, 0, l(0, 0, 0, 0));
+        y.analyse();
+        y.arg(0, true, 0, 1);
+        y.arg(0, true, 1, 0);
+        due("21 by way of param 1", y.run(second), 0);
+        due("22 by way of param 1", y.did(1), 1);
+        due("23 by way of param 1", y.foreseen(), 1);
+        y.arg(0, true, 2, 0);
+        due("21 by way of param 1, also given as 2", y.run(second), 0);
+        due("23 by way of param 1, also given as 2", y.foreseen(), 1);
+        due("21 by way of param 0", y.run(writer), 0);
+        due("23 by way of param 0", y.foreseen(), 1);
+        due("21 prints and faults", y.run(printer), 1);
+        due("23 prints and faults", y.foreseen(), 1);
+        due("21 does nothing", y.run(quiet), 0);
+        due("23 does nothing", y.foreseen(), 1);
     }
 
     // ---- promise 24: both
@@ -997,6 +1108,44 @@ public final class PromisesTest {
         x.arg(1, false, 0, 1);
         x.set(0, -1);
         due("24 fault in one order", x.both(add, div), 0);
+    }
+
+    private static void bothOfOldThings() {
+        PurityEffects x = fresh();
+        x.type(-1);
+        x.field(0, false);
+        x.field(0, true);
+        x.thing(0);
+        x.thing(0);
+        x.array(1);
+        int put = method(x, 1, 2, 0, l(11, 0, 0, 0));
+        int hang = method(x, 1, 2, 0, l(13, 0, 1, 1));
+        int item = method(x, 1, 3, 0, l(15, 2, 7, 0));
+        int make = method(x, 1, 1, 0, l(8, 1, 0, 0), l(13, 0, 1, 1));
+        int says = method(x, 1, 1, 0, l(10, 0, 0, 0), l(24, 0, 7, 3), l(22, 0, 0, 0));
+        int tells = method(x, 0, 1, 2, l(12, 0, 0, 1), l(31, 0, 0, 0));
+        for (int which = 0; which < 2; which++) {
+            x.arg(which, false, 0, which);
+            x.arg(which, true, 0, 0);
+            x.arg(which, true, 1, which);
+            x.arg(which, true, 2, 2);
+        }
+        due("24 a field of numbers", x.both(put, put), 0);
+        due("24 a field of references", x.both(hang, hang), 0);
+        due("24 an item", x.both(item, item), 0);
+        due("24 other places", x.both(put, hang), 1);
+        due("24 other places", x.both(item, hang), 1);
+        due("24 made or there", x.both(make, hang), 0);
+        due("24 made or there", x.both(hang, make), 0);
+        due("24 made or null", x.both(make, tells), 0);
+        due("24 null or made", x.both(tells, make), 0);
+        due("24 old things as results", x.both(tells, hang), 0);
+        due("24 how many are printed", x.both(says, put), 0);
+        x.put(0, 1, 1);
+        due("24 the same thing", x.both(tells, hang), 1);
+        x.arg(1, true, 0, 1);
+        due("24 things apart", x.both(put, put), 1);
+        due("24 things apart", x.both(make, make), 1);
     }
 
     private static void bothOfMadeThings() {
