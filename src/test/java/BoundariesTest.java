@@ -1963,6 +1963,18 @@ public final class BoundariesTest {
         due("22 420 METHODS without LINES: the LINES that called alone", v.did(3), 2 + 21 * 23);
         v.numbers(0, 22);
         due("21 508 LINES", v.run(many), FULL);
+        int calls24 = v.method(0, 0, 0);
+        int calls20 = v.method(0, 0, 0);
+        for (int i = 0; i < 24; i++) {
+            v.line(calls24, 21, 0, empty, 0);
+        }
+        for (int i = 0; i < 20; i++) {
+            v.line(calls20, 21, 0, calls24, 0);
+        }
+        due("21 500 LINES, all of which call", v.run(calls20), 0);
+        due("22 500 LINES, all of which call", v.did(3), 500);
+        v.line(calls20, 0, 0, 0, 0);
+        due("21 501 LINES, 500 of which call", v.run(calls20), FULL);
     }
 
     private static void promise21FaultLines() {
