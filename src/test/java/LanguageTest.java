@@ -6,7 +6,9 @@ import java.nio.file.Files;
 import java.nio.file.Path;
 import java.util.ArrayList;
 import java.util.List;
+import java.util.Map;
 import java.util.Set;
+import java.util.TreeMap;
 import java.util.TreeSet;
 import java.util.regex.Matcher;
 import java.util.regex.Pattern;
@@ -32,6 +34,7 @@ public final class LanguageTest {
         face();
         classesInside();
         words();
+        depthOfCalls();
         System.out.println(wrong == 0 ? "the rules are kept" : wrong + " rules are broken");
         if (wrong != 0) {
             System.exit(1);
@@ -95,9 +98,17 @@ public final class LanguageTest {
         }
     }
 
+    private static String source() throws Exception {
+        return Files.readString(Path.of("src/main/java/PurityEffects.java"));
+    }
+
+    private static String withoutComments(String all) {
+        return all.replaceAll("(?s)/\\*.*?\\*/", "").replaceAll("//[^\n]*", "");
+    }
+
     private static void words() throws Exception {
-        String all = Files.readString(Path.of("src/main/java/PurityEffects.java"));
-        String code = all.replaceAll("(?s)/\\*.*?\\*/", "").replaceAll("//[^\n]*", "");
+        String all = source();
+        String code = withoutComments(all);
         String[] banned = {"throw", "throws", "try", "catch", "finally", "synchronized", "assert", "import", "package", "protected",
             "Exception", "Error", "hashCode", "equals", "toString", "lambda", "Thread", "Object", "volatile", "native", "var", "yield"};
         for (String word : banned) {
@@ -124,5 +135,44 @@ public final class LanguageTest {
             String head = code.substring(code.lastIndexOf("\n", open) + 1, open);
             must(!head.contains("for ("), "12: made in a loop: " + loops.group());
         }
+    }
+
+    /** By names alone, so that methods of one name count as one: what is found is never less than what is. */
+    private static void depthOfCalls() throws Exception {
+        Map<String, Set<String>> calledBy = new TreeMap<>();
+        Set<String> open = new TreeSet<>();
+        Pattern begin = Pattern.compile(" {4,8}(?:\\w+(?:\\[])? )*(\\w+)\\([^;]*\\) \\{");
+        Pattern call = Pattern.compile("\\b(\\w+)\\(");
+        for (String row : withoutComments(source()).split("\n")) {
+            Matcher head = begin.matcher(row);
+            if (head.matches() && !Set.of("if", "for", "switch").contains(head.group(1))) {
+                open = calledBy.computeIfAbsent(head.group(1), name -> new TreeSet<>());
+                continue;
+            }
+            Matcher m = call.matcher(row);
+            while (m.find()) {
+                open.add(m.group(1));
+            }
+        }
+        must(calledBy.size() > 80 && calledBy.containsKey("weighCall"), "11: the methods are found: " + calledBy.size());
+        for (String name : calledBy.keySet()) {
+            int deep = deepest(name, calledBy, new TreeSet<>());
+            must(deep <= 8, "8, 11: from " + name + " calls go " + deep + " deep");
+        }
+    }
+
+    /** How many calls stand open at once, this one too; a hundred for one that comes back to itself. */
+    private static int deepest(String name, Map<String, Set<String>> calledBy, Set<String> above) {
+        if (!above.add(name)) {
+            return 100;
+        }
+        int deep = 0;
+        for (String called : calledBy.get(name)) {
+            if (calledBy.containsKey(called)) {
+                deep = Math.max(deep, deepest(called, calledBy, above));
+            }
+        }
+        above.remove(name);
+        return deep + 1;
     }
 }
