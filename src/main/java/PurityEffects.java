@@ -1021,8 +1021,7 @@ public final class PurityEffects {
                 }
                 int to = program.catchLine(methodAt[depth - 1], lineAt[depth - 1], fault);
                 if (to != NULL) {
-                    lineAt[depth - 1] = to;
-                    return 0;
+                    return goOnAt(to);
                 }
                 depth--;
             }
@@ -1036,6 +1035,11 @@ public final class PurityEffects {
 
         private int goOn() {
             lineAt[depth - 1]++;
+            return 0;
+        }
+
+        private int goOnAt(int line) {
+            lineAt[depth - 1] = line;
             return 0;
         }
 
@@ -1076,7 +1080,10 @@ public final class PurityEffects {
             if (op == 22) {
                 return doPrint(at);
             }
-            return op <= 28 ? doJump(at, op) : doCheckOrEnd(at, op);
+            if (op <= 28) {
+                return holds(at, op) ? goOnAt(program.cs[at]) : goOn();
+            }
+            return doCheckOrEnd(at, op);
         }
 
         private int doNumbers(int at, int op) {
@@ -1225,15 +1232,8 @@ public final class PurityEffects {
             return goOn();
         }
 
-        private int doJump(int at, int op) {
-            if (holds(at, op)) {
-                lineAt[depth - 1] = program.cs[at];
-                return 0;
-            }
-            return goOn();
-        }
-
-        /** Only what the OP wants is looked at: other operands may be any numbers. */
+        /** Whether a line of 23 to 28 goes on at its c. Only what the OP wants is looked at: other operands may be
+         *  any numbers. */
         private boolean holds(int at, int op) {
             int a = program.as[at];
             int b = program.bs[at];
